@@ -76,6 +76,13 @@ public final class BufferTest {
         Due.is("poke(max)", x.poke(Integer.MAX_VALUE), CountKeyStore.RANGE);
         Due.is("poke(2048)", x.poke(2048), 0);
         Due.is("poke(2049)", x.poke(2049), CountKeyStore.RANGE);
+        Due.fill(x, Due.row(1200, 5));
+        Due.is("poke(848)", x.poke(848), 1200);
+        Due.is("memory(848)", x.memory(848), 5);
+        Due.is("memory(2047)", x.memory(2047), (5 + 1199) & 255);
+        Due.fill(x, Due.row(1200, 6));
+        Due.is("poke(849)", x.poke(849), CountKeyStore.RANGE);
+        Due.is("memory(849)", x.memory(849), 6);
     }
 
     private static void everyReaderEmptiesTheBuffer() {

@@ -33,6 +33,7 @@ public final class ProgramTest {
         searchesByKey();
         highSearchesAsBytes();
         pointsOfReading();
+        whatIsLeftOfAProgram();
         readsAndLengths();
         dataChecks();
         writingData();
@@ -228,8 +229,13 @@ public final class ProgramTest {
         Due.is("the check comes first", x.start(0), 4);
         program(x, row(HOME, 0, 2, 0), row(JUMP, 0, 0, 0), row(READ_COUNT, 0, 6, 0));
         Due.is("reading", x.start(0), 1);
+        program(x, row(NOTHING, 0, 0, 0), row(ERASE, 0, 0, 0));
         x.command(0, NOTHING, 0, 0, 0);
         Due.is("a write behind the program", x.start(0), 0);
+        for (int op = WRITE_DATA; op <= ERASE; op++) {
+            program(x, row(ID, 0, 3, 0), row(JUMP, 0, 0, 0), row(op, 0, 6, 0));
+            Due.is("op " + op, x.start(0), 8);
+        }
         // The table of the volume is read as any other track.
         Due.allocate(x, "PAY", 0, 3, 10, 5);
         program(x, row(READ_ALL, 100, 22, 0));
@@ -272,6 +278,12 @@ public final class ProgramTest {
         program(x, row(SEEK, 6, 2, 0));
         Due.is("back again", x.start(1), 0);
         Due.is("time()", x.time(), 860);
+        Due.poke(x, 0, 3, 1, 5, 2, 4, 3);
+        program(x, row(SEEK, 0, 2, 0), row(SEEK, 2, 2, 0), row(SEEK, 4, 2, 0));
+        Due.is("from one to the other", x.start(1), 0);
+        Due.is("time()", x.time(), 860 + 110 + 90 + 70);
+        lay(x, row(1, 2, 3, 0, 0, 0));
+        Due.is("cylinder 4, head 3", x.record(1, 19, 0, 2), 3);
         Due.is("arm(-1, 0)", x.arm(-1, 0), CountKeyStore.RANGE);
         Due.is("arm(2, 1)", x.arm(2, 1), CountKeyStore.RANGE);
         Due.is("arm(1, -1)", x.arm(1, -1), CountKeyStore.RANGE);
@@ -408,11 +420,46 @@ public final class ProgramTest {
         Due.is("start(1)", x.start(1), 0);
         Due.is("B", x.memory(102), 2);
         Due.is("time()", x.time(), 4500 + 126);
-        // Behind a READ KEY the point is nowhere: the next record.
-        program(x, row(READ_KEY, 100, 3, 0), row(READ_DATA, 110, 2, 0));
+        // Behind a READ KEY and a READ DATA the point is nowhere: the next record.
+        for (int op = READ_KEY; op <= READ_DATA; op++) {
+            x = three();
+            program(x, row(READ_COUNT, 100, 6, 0), row(op, 100, 3, ANY), row(READ_DATA, 110, 2, 0));
+            Due.is("start(1)", x.start(1), 0);
+            Due.is("B", x.memory(110), 4);
+            Due.is("time()", x.time(), 1500 + 95);
+            program(x, row(KEY, 100, 1, 0), row(op, 100, 3, ANY), row(READ_COUNT, 110, 6, 0));
+            Due.is("start(1)", x.start(1), 0);
+        }
+        // And a new program begins with it nowhere.
+        x = three();
+        program(x, row(READ_COUNT, 100, 6, 0));
         Due.is("start(1)", x.start(1), 0);
-        Due.is("A, then B", x.memory(100) * 10 + x.memory(110), 14);
-        Due.is("time()", x.time(), 6000 + 95);
+        program(x, row(READ_KEY, 100, 2, 0));
+        Due.is("start(1)", x.start(1), 0);
+        Due.is("B", x.memory(100), 4);
+        Due.is("time()", x.time(), 1500 + 95);
+    }
+
+    private static void whatIsLeftOfAProgram() {
+        CountKeyStore x = three();
+        program(x, row(READ_ALL, 100, 20, 0));
+        Due.is("start(1)", x.start(1), 3);
+        ended(x, 3, 11, 0, 1);
+        program(x, row(JUMP, 0, 0, 0));
+        Due.is("start(1)", x.start(1), 4);
+        ended(x, 4, 0, CountKeyStore.NONE, 0);
+        program(x, row(READ_ALL, 100, 20, ANY), row(NOTHING, 0, 0, 0));
+        Due.is("start(1)", x.start(1), 0);
+        ended(x, 0, 0, 1, 2);
+        program(x, row(READ_ALL, 100, 20, ANY), row(READ_COUNT, 100, 6, 0));
+        Due.is("start(1)", x.start(1), 0);
+        ended(x, 0, 0, 1, 2);
+        program(x, row(READ_ALL, 100, 20, ANY));
+        Due.is("start(1)", x.start(1), 0);
+        ended(x, 0, 12, 0, 1);
+        program(x, row(HOME, 0, 2, 0), row(JUMP, 0, 0, 0), row(ERASE, 0, 0, 0));
+        Due.is("start(0)", x.start(0), 8);
+        ended(x, 8, 0, CountKeyStore.NONE, 0);
     }
 
     private static void readsAndLengths() {
@@ -503,6 +550,22 @@ public final class ProgramTest {
         Due.is("time()", x.time(), turn + 73);
         Due.is("data", x.record(1, 0, 0, 200), 88);
         Due.is("the key stays", x.record(1, 0, 0, 101), 2);
+        // Too few bytes for the data behind a key, and none of the record behind it.
+        x = new CountKeyStore();
+        lay(x, row(0, 0, 1, 2, 0, 3, 1, 2, 3, 4, 5), row(0, 0, 2, 0, 0, 1, 6));
+        Due.poke(x, 0, 0, 0, 1, 99);
+        program(x, row(ID, 0, 3, 0), row(JUMP, 0, 0, 0), row(WRITE_DATA, 3, 1, ANY), row(READ_DATA, 100, 1, 0));
+        Due.is("start(1)", x.start(1), 0);
+        Due.is("the point is nowhere then", x.memory(100), 6);
+        Due.holds("the key", Due.keyIs(x, 1, 0, 0, 1, 2));
+        for (int i = 0; i < 3; i++) {
+            Due.is("the data", x.record(1, 0, 0, 200 + i), i == 0 ? 99 : 0);
+        }
+        program(x, row(ID, 0, 3, 0), row(JUMP, 0, 0, 0), row(WRITE_KEY, 3, 1, ANY), row(READ_DATA, 100, 1, 0));
+        Due.is("start(1)", x.start(1), 0);
+        Due.is("the point is nowhere then", x.memory(100), 6);
+        Due.holds("the key", Due.keyIs(x, 1, 0, 0, 99, 0));
+        Due.is("the data", x.record(1, 0, 0, 200), 0);
     }
 
     private static void writingKeys() {
@@ -551,6 +614,10 @@ public final class ProgramTest {
         Due.is("behind a key", x.start(1), 0);
         Due.is("record 1", x.record(1, 0, 1, 200), 30);
         Due.is("record 2", x.record(1, 0, 2, 0), CountKeyStore.NONE);
+        program(x, row(READ_COUNT, 100, 6, 0), row(HOME, 0, 2, 0), row(JUMP, 1, 0, 0), row(WRITE_RECORD, 3, 7, 0));
+        Due.is("at the home, whatever was before", x.start(1), 0);
+        Due.is("record 0", x.record(1, 0, 0, 0), 5);
+        Due.is("record 1", x.record(1, 0, 1, 0), CountKeyStore.NONE);
     }
 
     private static void badCountsAndFullTracks() {
@@ -622,6 +689,12 @@ public final class ProgramTest {
         Due.is("start(1)", x.start(1), 0);
         Due.is("time()", x.time(), 4560);
         Due.is("one is there", x.record(1, 0, 0, 2), 1);
+        x = three();
+        Due.poke(x, 0, 0, 0, 1);
+        program(x, row(ID, 0, 3, 0), row(JUMP, 0, 0, 0), row(ERASE, 0, 0, 0), row(READ_DATA, 100, 1, 0));
+        Due.is("start(1)", x.start(1), 0);
+        Due.is("the point is nowhere: a turn for A", x.time(), 3063);
+        Due.is("A", x.memory(100), 3);
     }
 
     private static void passesAreCounted() {

@@ -12,6 +12,8 @@ public final class SequentialTest {
         spannedBlocks();
         spannedEmptyRecords();
         spannedFull();
+        behindTheLastBlock();
+        exactRoom();
         blocksOverTracks();
         opensToPutEmpty();
         growsWhileOpen();
@@ -323,6 +325,66 @@ public final class SequentialTest {
         Due.is("one byte fewer", Due.put(x, h, Due.row(1139, 0)), 1);
     }
 
+    private static void behindTheLastBlock() {
+        // The first track has room left, but the last block is on the second one.
+        CountKeyStore x = with(1, 2, 0, 1200);
+        int h = Due.open(x, "A", 1);
+        Due.is("put", Due.put(x, h, Due.row(896, 1)), 1);
+        Due.is("put", Due.put(x, h, Due.row(896, 2)), 1);
+        Due.is("put", Due.put(x, h, Due.row(400, 3)), 1);
+        Due.is("one on the first", x.record(0, 1, 0, 4), 900);
+        Due.is("one on the second", x.record(0, 2, 0, 4), 900);
+        x.close(h);
+        Due.is("behind the last one", x.record(0, 2, 1, 4), 404);
+        Due.is("its number", x.record(0, 2, 1, 2), 2);
+        Due.is("none more on the first", x.record(0, 1, 1, 4), CountKeyStore.NONE);
+    }
+
+    private static void exactRoom() {
+        // A block of 1200 and one of 210 are all that a track takes.
+        CountKeyStore x = with(1, 1, 0, 1200);
+        int h = Due.open(x, "A", 1);
+        Due.put(x, h, Due.row(1196, 0));
+        Due.is("put", Due.put(x, h, Due.row(100, 0)), 1);
+        Due.is("opened(h, 3)", x.opened(h, 3), 104);
+        Due.is("105 more", Due.put(x, h, Due.row(105, 0)), CountKeyStore.FULL);
+        Due.is("104 more", Due.put(x, h, Due.row(104, 0)), 1);
+        Due.is("opened(h, 3)", x.opened(h, 3), 210);
+        Due.is("nothing more", Due.put(x, h), CountKeyStore.FULL);
+        x.close(h);
+        x = with(1, 1, 0, 1200);
+        h = Due.open(x, "A", 1);
+        Due.is("a first one", Due.put(x, h), 1);
+        Due.is("to the block's last byte", Due.put(x, h, Due.row(1194, 0)), 1);
+        Due.is("opened(h, 3)", x.opened(h, 3), 1200);
+        Due.is("not written", x.record(0, 1, 0, 0), CountKeyStore.NONE);
+        // 1470 places: a piece may go on into a second block, but not into a third.
+        x = with(2, 1, 0, 700);
+        h = Due.open(x, "A", 1);
+        Due.is("two blocks of 695", Due.put(x, h, Due.row(1200, 0)), 1);
+        Due.is("opened(h, 3)", x.opened(h, 3), 510);
+        Due.is("to the last byte of the second", Due.put(x, h, Due.row(188, 0)), CountKeyStore.FULL);
+        Due.is("it is 1430 of both, and 10 are left", Due.put(x, h, Due.row(187, 0)), 1);
+        Due.is("opened(h, 3)", x.opened(h, 3), 700);
+        Due.is("not one byte more", Due.put(x, h, 1), CountKeyStore.FULL);
+        Due.is("nor none", Due.put(x, h), CountKeyStore.FULL);
+        // The longest record.
+        x = with(2, 1, 0, 1200);
+        h = Due.open(x, "A", 1);
+        Due.is("1200 bytes", Due.put(x, h, Due.row(1200, 7)), 1);
+        x.close(h);
+        h = Due.open(x, "A", 0);
+        Due.is("get", x.get(h), 1200);
+        Due.holds("OUT", Due.outIs(x, Due.row(1200, 7)));
+        // No piece is begun in three bytes: the block is written ahead.
+        x = with(2, 2, 0, 9);
+        h = Due.open(x, "A", 1);
+        Due.is("put", Due.put(x, h, 1), 1);
+        Due.is("three are free", x.opened(h, 3), 6);
+        Due.is("put", Due.put(x, h), 1);
+        Due.is("opened(h, 3)", x.opened(h, 3), 9);
+    }
+
     private static void blocksOverTracks() {
         // Tracks 1 .. 2 and 4: the set's tracks are counted extent by extent.
         CountKeyStore x = new CountKeyStore();
@@ -557,6 +619,26 @@ public final class SequentialTest {
         x.get(h);
         Due.fill(x, 98);
         Due.is("open to get", x.rewrite(h), CountKeyStore.STATE);
+        // On another track, in a block that is not its first, behind the first record.
+        x = with(0, 2, 200, 3);
+        h = Due.open(x, "A", 1);
+        for (int i = 0; i < 12; i++) {
+            Due.put(x, h, Due.row(200, i));
+        }
+        x.close(h);
+        h = Due.open(x, "A", 2);
+        for (int i = 0; i < 11; i++) {
+            x.get(h);
+        }
+        Due.fill(x, Due.row(200, 100));
+        Due.is("rewrite", x.rewrite(h), 1);
+        for (int i = 0; i < 12; i++) {
+            int at = 200 + i % 3 * 200;
+            Due.is("record " + i, x.record(0, 1 + i / 6, i / 3 % 2, at), i == 10 ? 100 : i);
+            Due.is("its end", x.record(0, 1 + i / 6, i / 3 % 2, at + 199), (i == 10 ? 100 : i) + 199 & 255);
+        }
+        Due.is("get", x.get(h), 200);
+        Due.is("OUT", x.out(0), 11);
     }
 
     private static void rewritingVariable() {

@@ -13,6 +13,7 @@ public final class VolumeTest {
         theTable();
         theTableIsWrittenAnew();
         tracksComeEmpty();
+        oldExtentsAreForgotten();
         told();
         Due.settle();
     }
@@ -141,7 +142,15 @@ public final class VolumeTest {
     }
 
     private static void allAtOnce() {
-        CountKeyStore x = holes(1, 2, 2, 1, 1, 3, 1);
+        CountKeyStore x = new CountKeyStore();
+        Due.fill(x, "A");
+        Due.is("all at once", x.allocate(0, 79, 1, 1, true), 0);
+        extents(x, 0, 1, 79);
+        x = new CountKeyStore();
+        Due.fill(x, "A");
+        Due.is("two at once", x.allocate(0, 2, 1, 1, true), 0);
+        extents(x, 0, 1, 2);
+        x = holes(1, 2, 2, 1, 1, 3, 1);
         Due.fill(x, "A");
         Due.is("three at once", x.allocate(0, 3, 1, 1, true), 1);
         extents(x, 1, 8, 3);
@@ -305,6 +314,40 @@ public final class VolumeTest {
         Due.allocate(x, "B", 0, 2, 1, 1);
         h = Due.open(x, "B", 0);
         Due.is("nothing there", x.get(h), CountKeyStore.NONE);
+    }
+
+    private static void oldExtentsAreForgotten() {
+        // Set 1 has had tracks 2 and 4 before; it has track 2 alone now, and track 4 is another's.
+        CountKeyStore x = holes(1, 1, 1, 1, 1);
+        Due.is("allocate", Due.allocate(x, "TWO", 0, 2, 1, 1), 1);
+        extents(x, 1, 2, 1, 4, 1);
+        Due.fill(x, "TWO");
+        Due.is("scratch", x.scratch(), 1);
+        Due.is("allocate", Due.allocate(x, "ONE", 0, 1, 200, 6), 1);
+        extents(x, 1, 2, 1);
+        Due.is("allocate", Due.allocate(x, "OTHER", 0, 1, 200, 6), 3);
+        extents(x, 3, 4, 1);
+        int h = Due.open(x, "OTHER", 1);
+        Due.put(x, h, Due.row(200, 9));
+        x.close(h);
+        h = Due.open(x, "ONE", 1);
+        for (int i = 0; i < 7; i++) {
+            Due.is("put", Due.put(x, h, Due.row(200, i)), 1);
+        }
+        Due.is("no second track", Due.put(x, h, Due.row(200, 7)), CountKeyStore.FULL);
+        x.close(h);
+        h = Due.open(x, "ONE", 0);
+        for (int i = 0; i < 7; i++) {
+            Due.is("get", x.get(h), 200);
+        }
+        Due.is("not on into the other", x.get(h), CountKeyStore.NONE);
+        x.close(h);
+        x.close(Due.open(x, "ONE", 1));
+        Due.is("nor is it emptied", x.record(0, 4, 0, 200), 9);
+        Due.fill(x, "ONE");
+        Due.is("scratch", x.scratch(), 1);
+        Due.is("nor is it freed", x.record(0, 4, 0, 200), 9);
+        Due.is("count(0)", x.count(0), 75);
     }
 
     private static void told() {
