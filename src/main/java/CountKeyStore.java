@@ -1835,6 +1835,11 @@ public final class CountKeyStore {
             blocks = other.blocks;
         }
 
+        /** A block's mark counts when it is come to: what spoils it later leaves the rest of it to be got. */
+        boolean entersBlock() {
+            return offset == 0;
+        }
+
         void passBlock() {
             record++;
             offset = 0;
@@ -2108,7 +2113,7 @@ public final class CountKeyStore {
                 if (t == null) {
                     return NONE;
                 }
-                if (t.isSpoiled(next.record)) {
+                if (next.entersBlock() && t.isSpoiled(next.record)) {
                     next.passBlock();
                     return CHECK;
                 }

@@ -8,6 +8,7 @@ public final class LibraryTest {
         withoutBlocks();
         whatIsGivenUp();
         choosing();
+        spoiledUnderWay();
         readingOverTracks();
         dropping();
         pressing();
@@ -249,6 +250,22 @@ public final class LibraryTest {
         Due.is("drop", x.drop(0, 0), 1);
         Due.is("A is gone", Due.member(x, h, "A"), CountKeyStore.NONE);
         Due.is("but what was chosen is read on", x.get(h), CountKeyStore.CHECK);
+    }
+
+    private static void spoiledUnderWay() {
+        CountKeyStore x = with(2, 1, 2);
+        add(x, "A", 1, 3, 10);
+        int h = Due.open(x, "LIB", 0);
+        Due.is("A", Due.member(x, h, "A"), 2);
+        Due.is("get", x.get(h), 1);
+        x.spoil(0, 2, 0);
+        Due.is("none such", Due.member(x, h, "X"), CountKeyStore.NONE);
+        Due.is("the block is under way still", x.get(h), 1);
+        Due.is("OUT", x.out(0), 11);
+        Due.is("A anew", Due.member(x, h, "A"), 2);
+        Due.is("it is the next one now", x.get(h), CountKeyStore.CHECK);
+        Due.is("get", x.get(h), 1);
+        Due.is("OUT", x.out(0), 12);
     }
 
     private static void readingOverTracks() {

@@ -882,7 +882,7 @@ final class Model {
                 o.offset = 0;
                 continue;
             }
-            if (r.spoiled) {
+            if (o.offset == 0 && r.spoiled) {
                 o.at++;
                 o.offset = 0;
                 return CHECK;

@@ -19,7 +19,9 @@ public final class SequentialTest {
         growsWhileOpen();
         getting();
         checks();
-        checksInsideABlock();
+        spoiledUnderWay();
+        spoiledUnderWayVariable();
+        spoiledUnderWaySpanned();
         spannedChecks();
         rewritingFixed();
         rewritingVariable();
@@ -517,15 +519,64 @@ public final class SequentialTest {
         Due.is("get", x.get(h), CountKeyStore.NONE);
     }
 
-    private static void checksInsideABlock() {
-        // What would be read is in a spoiled block, though the block was whole for its first record.
-        CountKeyStore x = numbers(6, 3);
+    private static void spoiledUnderWay() {
+        // The next block is asked for its mark; the one of which a record was got already is not it.
+        CountKeyStore x = numbers(7, 3);
         int h = Due.open(x, "A", 0);
         Due.is("get", x.get(h), 1);
         x.spoil(0, 1, 0);
-        Due.is("get", x.get(h), CountKeyStore.CHECK);
+        Due.is("the block under way", x.get(h), 1);
+        Due.is("OUT", x.out(0), 2);
+        Due.is("its last record", x.get(h), 1);
+        Due.is("OUT", x.out(0), 3);
+        Due.is("it is spoiled all the same", x.record(0, 1, 0, 6), 1);
+        x.spoil(0, 1, 1);
+        Due.is("the next block", x.get(h), CountKeyStore.CHECK);
+        Due.is("OUT stays", x.out(0), 3);
+        Due.is("the one behind it", x.get(h), 1);
+        Due.is("OUT", x.out(0), 7);
+        Due.is("opened(h, 2)", x.opened(h, 2), 4);
+        int other = Due.open(x, "A", 0);
+        Due.is("to another reader it is the next one", x.get(other), CountKeyStore.CHECK);
+    }
+
+    private static void spoiledUnderWayVariable() {
+        CountKeyStore x = with(1, 1, 0, 10);
+        int h = Due.open(x, "A", 1);
+        Due.put(x, h, 1, 2, 3);
+        Due.put(x, h);
+        Due.put(x, h);
+        Due.put(x, h);
+        x.close(h);
+        h = Due.open(x, "A", 2);
+        Due.is("get", x.get(h), 3);
+        x.spoil(0, 1, 0);
+        Due.is("a record of 0 bytes in the block under way", x.get(h), 0);
+        Due.is("rewrite", x.rewrite(h), 1);
+        Due.is("makes it whole", x.record(0, 1, 0, 6), 0);
+        Due.is("get", x.get(h), 0);
+        x.spoil(0, 1, 1);
+        Due.is("the last one", x.get(h), 0);
+        Due.is("get", x.get(h), CountKeyStore.NONE);
+    }
+
+    private static void spoiledUnderWaySpanned() {
+        CountKeyStore x = pieces();
+        int h = Due.open(x, "A", 0);
         Due.is("get", x.get(h), 1);
-        Due.is("OUT", x.out(0), 4);
+        x.spoil(0, 1, 0);
+        Due.is("its first piece is in the block under way", x.get(h), 8);
+        Due.holds("OUT", Due.outIs(x, Due.row(8, 20)));
+        x.close(h);
+        x = pieces();
+        h = Due.open(x, "A", 0);
+        Due.is("get", x.get(h), 1);
+        x.spoil(0, 1, 0);
+        x.spoil(0, 1, 1);
+        Due.is("but its second is in the next one", x.get(h), CountKeyStore.CHECK);
+        Due.holds("OUT stays", Due.outIs(x, 1));
+        Due.is("its last piece is passed over", x.get(h), 2);
+        Due.holds("OUT", Due.outIs(x, 50, 51));
     }
 
     /** A SPANNED set, b 10: 1; 20 .. 27 in blocks 0, 1, 2; 50 51 in block 3. */
