@@ -10,8 +10,7 @@ final class Due {
         asked++;
         if (got != want) {
             wrong++;
-            StackTraceElement[] at = Thread.currentThread().getStackTrace();
-            System.out.println(at[2] + ": " + call + " answered " + got + ", due is " + want);
+            System.out.println(line() + ": " + call + " answered " + got + ", due is " + want);
         }
     }
 
@@ -19,9 +18,20 @@ final class Due {
         asked++;
         if (!does) {
             wrong++;
-            StackTraceElement[] at = Thread.currentThread().getStackTrace();
-            System.out.println(at[2] + ": " + what + " does not hold");
+            System.out.println(line() + ": " + what + " does not hold");
         }
+    }
+
+    /** The lines of the test that led here, the innermost first; its helpers are told too. */
+    private static String line() {
+        StringBuilder lines = new StringBuilder();
+        for (StackTraceElement at : Thread.currentThread().getStackTrace()) {
+            if (at.getLineNumber() > 0 && at.getClassName().endsWith("Test") && !at.getMethodName().equals("main")) {
+                lines.append(lines.length() == 0 ? "" : " < ").append(at.getMethodName()).append(" (")
+                        .append(at.getFileName()).append(':').append(at.getLineNumber()).append(')');
+            }
+        }
+        return lines.toString();
     }
 
     /** The last line of a test's main: it ends with exit code 1 if an answer was wrong. */

@@ -1,26 +1,5 @@
 /** Promises 5 and 8 to 13: commands, channel programs, their status and time, arms and records. */
-public final class ProgramTest {
-    private static final int CHAIN = 1;
-    private static final int ANY = 2;
-    private static final int DROP = 4;
-
-    private static final int SEEK = 1;
-    private static final int HEAD = 2;
-    private static final int HOME = 3;
-    private static final int ID = 4;
-    private static final int KEY = 5;
-    private static final int HIGH = 6;
-    private static final int JUMP = 7;
-    private static final int READ_COUNT = 8;
-    private static final int READ_KEY = 9;
-    private static final int READ_DATA = 10;
-    private static final int READ_ALL = 11;
-    private static final int WRITE_DATA = 12;
-    private static final int WRITE_KEY = 13;
-    private static final int WRITE_RECORD = 14;
-    private static final int ERASE = 15;
-    private static final int NOTHING = 16;
-
+public final class ProgramTest extends Rig {
     public static void main(String[] args) {
         commandsAndRange();
         theCheck();
@@ -46,53 +25,6 @@ public final class ProgramTest {
         recordsTold();
         Due.settle();
     }
-
-    // ---- helpers
-
-    /** Sets a program of rows {op, address, length, flags}; all but the last one chain. */
-    private static void program(CountKeyStore x, int[]... rows) {
-        for (int i = 0; i < rows.length; i++) {
-            int chain = i + 1 < rows.length ? CHAIN : 0;
-            Due.is("command", x.command(i, rows[i][0], rows[i][1], rows[i][2], rows[i][3] | chain), 1);
-        }
-    }
-
-    private static int[] row(int... of) {
-        return of;
-    }
-
-    private static void ended(CountKeyStore x, int status, int residual, int at, int begun) {
-        Due.is("status(0)", x.status(0), status);
-        Due.is("status(1)", x.status(1), residual);
-        Due.is("status(2)", x.status(2), at);
-        Due.is("status(3)", x.status(3), begun);
-    }
-
-    /** The track at the arm of unit 1 (cylinder 0, head 0) has the records that stand in these rows. */
-    private static void lay(CountKeyStore x, int[]... records) {
-        int[][] rows = new int[records.length + 2][];
-        Due.poke(x, 2000, x.arm(1, 0), x.arm(1, 1));
-        rows[0] = row(HOME, 2000, 2, 0);
-        rows[1] = row(JUMP, 0, 0, 0);
-        int at = 1000;
-        for (int i = 0; i < records.length; i++) {
-            Due.poke(x, at, records[i]);
-            rows[i + 2] = row(WRITE_RECORD, at, records[i].length, ANY);
-            at += records[i].length;
-        }
-        program(x, rows);
-        Due.is("start(1)", x.start(1), 0);
-    }
-
-    /** A store whose unit 1 has, on track 0, A (key 1 2, data 3), B (no key, data 4 5), C (key 9). */
-    private static CountKeyStore three() {
-        CountKeyStore x = new CountKeyStore();
-        lay(x, row(0, 0, 1, 2, 0, 1, 1, 2, 3), row(0, 0, 2, 0, 0, 2, 4, 5), row(7, 8, 9, 1, 0, 0, 9));
-        Due.is("time()", x.time(), 126);
-        return x;
-    }
-
-    // ---- the tests
 
     private static void commandsAndRange() {
         CountKeyStore x = new CountKeyStore();
