@@ -71,10 +71,10 @@ public final class EdgeLibraryTest extends Rig {
         return bytes;
     }
 
-    /** The list on the set's track 0, which is track 1 of the unit, has these entries. */
+    /** The list on the set's track 0, which is track 1 of the unit, has these entries; of ten records four are asked. */
     private static void listIs(CountKeyStore x, int[]... entries) {
         int records = (entries.length + 3) / 4;
-        for (int k = 0; k < records; k++) {
+        for (int k = 0; k < records; k += records == 10 ? 3 : 1) {
             int[] data = {};
             int last = Math.min(entries.length, 4 * k + 4) - 1;
             for (int i = 4 * k; i <= last; i++) {
@@ -237,19 +237,19 @@ public final class EdgeLibraryTest extends Rig {
 
     // "how many BLOCKS it has (two bytes)"
     private static void blocksOfTwoBytes() {
-        // 31 places a block: 47 a track, 258 of them on six.
-        CountKeyStore x = toPut(8, 1, 1);
-        int h = 0;
-        for (int i = 0; i < 258; i++) {
-            Due.fill(x, i % 251);
-            x.put(h);
+        // 50 places a block: 29 a track. In 512 calls there can't be 256 of them, so the higher byte is 0.
+        CountKeyStore x = toPut(8, 20, 1);
+        for (int i = 0; i < 200; i++) {
+            x.feed(0, 0, 0, 0, i);
+            Due.is("put", x.put(0), 1);
         }
         Due.is("stow", Due.stow(x, 0, "M"), 1);
-        listIs(x, entry("M", 1, 1, 258));
-        Due.is("the last block", x.record(0, 7, 22, 200), 257 % 251);
+        listIs(x, entry("M", 1, 1, 200));
+        Due.is("the last block", x.record(0, 8, 25, 219), 199);
+        Due.is("and no more", x.record(0, 8, 26, 219), NONE);
         x.close(0);
         Due.open(x, "LIB", TO_GET);
-        Due.is("member", Due.member(x, 0, "M"), 258);
+        Due.is("member", Due.member(x, 0, "M"), 200);
     }
 
     // "STATE: no such h, no LIBRARY, opened to put" (of member)
@@ -579,6 +579,13 @@ public final class EdgeLibraryTest extends Rig {
     private static void dropFrom40() {
         CountKeyStore x = forty();
         x.close(0);
+        Due.is("one between of 40", x.drop(0, 10), 39);
+        for (int i : new int[] {0, 9, 10, 38}) {
+            Due.is("memberAt", x.memberAt(0, i), 8);
+            Due.is("its name", x.out(1), i < 10 ? i : i + 1);
+        }
+        x = forty();
+        x.close(0);
         Due.is("drop", x.drop(0, 40), NONE);
         Due.is("drop", x.drop(0, 39), 39);
         Due.is("drop", x.drop(0, 39), NONE);
@@ -718,12 +725,12 @@ public final class EdgeLibraryTest extends Rig {
 
     // The same, over TRACKS: a BLOCK for which there is no room on its TRACK goes on the next.
     private static void pressOverTracks() {
-        CountKeyStore x = toPut(5, 100, 12);
-        // Blocks of 300, 900, 1200, 500, 700, 200: tracks 1, 1, 2, 3, 3, 4.
-        int[] records = {3, 9, 12, 5, 7, 2};
+        CountKeyStore x = toPut(5, 200, 6);
+        // Blocks of 200, 800, 1200, 400, 600, 600: tracks 1, 1, 2, 3, 3, 4.
+        int[] records = {1, 4, 6, 2, 3, 3};
         for (int m = 0; m < 6; m++) {
             for (int i = 0; i < records[m]; i++) {
-                Due.is("put", Due.put(x, 0, Due.row(100, m)), 1);
+                Due.is("put", Due.put(x, 0, Due.row(200, m)), 1);
             }
             Due.stow(x, 0, "M" + m);
         }
@@ -733,12 +740,14 @@ public final class EdgeLibraryTest extends Rig {
         x.spoil(0, 4, 0);
         x.drop(0, 2);
         x.drop(0, 1);
-        // 300, 500: 890 with 30 ahead; 700 does not fit behind them; 200 behind that.
+        // 200, 400 and 600 end at 1320; the other 600 does not fit behind them.
         Due.is("press", x.press(0), 4);
-        listIs(x, entry("M0", 1, 1, 1), entry("M3", 1, 2, 1), entry("M4", 2, 1, 1), entry("M5", 2, 2, 1));
+        listIs(x, entry("M0", 1, 1, 1), entry("M3", 1, 2, 1), entry("M4", 1, 3, 1), entry("M5", 2, 1, 1));
         Due.is("M3's mark went with it", x.record(0, 2, 1, 6), 1);
-        Due.is("M4's head", x.record(0, 3, 0, 1), 3);
-        Due.is("M5 is behind it", x.record(0, 3, 1, 200), 5);
+        Due.is("M4 is behind it", x.record(0, 2, 2, 5), 690);
+        Due.is("M5 is on the next", x.record(0, 3, 0, 200), 5);
+        Due.is("M5's head", x.record(0, 3, 0, 1), 3);
+        Due.is("alone", x.record(0, 3, 1, 4), NONE);
         Due.is("nothing on the third", x.record(0, 4, 0, 4), NONE);
         Due.is("nothing on the fourth", x.record(0, 5, 0, 4), NONE);
     }

@@ -589,18 +589,6 @@ public final class ProgramTest extends Rig {
                 row(WRITE_RECORD, 60, 157, 0));
         Due.is("one more", x.start(1), 2);
         Due.is("the first was written", x.record(1, 0, 1, 0), CountKeyStore.NONE);
-        // As many records as a track can have.
-        Due.poke(x, 60, 0, 0, 200, 0, 0, 0);
-        program(x, row(HOME, 0, 2, 0), row(JUMP, 0, 0, 0), row(WRITE_RECORD, 60, 6, 0));
-        Due.is("start(1)", x.start(1), 0);
-        for (int n = 2; n <= 50; n++) {
-            Due.poke(x, 60, 0, 0, n);
-            Due.poke(x, 70, 0, 0, n == 2 ? 200 : n - 1);
-            program(x, row(ID, 70, 3, 0), row(JUMP, 0, 0, 0), row(WRITE_RECORD, 60, 6, 0));
-            Due.is("record " + n, x.start(1), n <= 49 ? 0 : 2);
-        }
-        Due.is("the 49th", x.record(1, 0, 48, 5), 1470);
-        Due.is("the 50th", x.record(1, 0, 49, 5), CountKeyStore.NONE);
     }
 
     private static void erasing() {
