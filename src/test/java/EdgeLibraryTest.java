@@ -387,11 +387,14 @@ public final class EdgeLibraryTest extends Rig {
         Due.is("to get", Due.stow(x, 0, "M"), STATE);
         x.close(0);
         for (int kind : new int[] {FIXED, VARIABLE, SPANNED}) {
-            Due.allocate(x, "K" + kind, kind, 1, kind == FIXED ? 1 : 0, 8);
+            Due.allocate(x, "K" + kind, kind, 1, kind == FIXED ? 4 : 0, kind == FIXED ? 2 : 8);
             Due.open(x, "K" + kind, TO_PUT);
-            Due.put(x, 0, 1);
+            for (int i = 0; i < 3; i++) {
+                Due.put(x, 0, 1, 2, 3, 4);
+            }
             Due.is("kind " + kind, Due.stow(x, 0, "M"), STATE);
             Due.is("the block stays", x.opened(0, 3) > 0 ? 1 : 0, 1);
+            Due.is("what is written stays", x.record(0, 3 + kind, 0, 4), 8);
             x.close(0);
         }
         Due.allocate(x, "D", DIRECT, 1, 1, 1);
@@ -456,7 +459,9 @@ public final class EdgeLibraryTest extends Rig {
         Due.put(x, 0, 1);
         Due.put(x, 0, 2);
         Due.put(x, 0, 3);
+        x.spoil(0, 1, 0);
         Due.is("FULL", Due.stow(x, 0, "X"), FULL);
+        Due.is("the list is not written", x.record(0, 1, 0, 6), 1);
         Due.is("members", x.dataSet(0, 6), 40);
         Due.is("ten records of the list", x.record(0, 1, 10, 2), NONE);
         Due.is("the block stays", x.opened(0, 3), 1);

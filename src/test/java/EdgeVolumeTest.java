@@ -23,6 +23,7 @@ public final class EdgeVolumeTest extends Rig {
         allAtOnce();
         allAtOnceAtTheEnd();
         scratchGone();
+        scratchIsForgotten();
         scratchNone();
         scratchBusy();
         scratchedHaveNoRecords();
@@ -355,6 +356,37 @@ public final class EdgeVolumeTest extends Rig {
         Due.is("extend", extend(x, "A", 1), NONE);
         Due.is("scratch", scratch(x, "A"), NONE);
         Due.is("the others stay", x.dataSet(2, 20), 4);
+    }
+
+    // The same: nothing of it is left to the next one with its number
+    private static void scratchIsForgotten() {
+        CountKeyStore x = holes(1, 1, 1, 1, 1, 1, 1);
+        Due.is("four extents", allocate(x, "A", FIXED, 4, 1, 1), 1);
+        extents(x, 1, 2, 1, 4, 1, 6, 1, 8, 1);
+        scratch(x, "A");
+        Due.is("one extent", allocate(x, "B", FIXED, 1, 200, 6), 1);
+        extents(x, 1, 2, 1);
+        Due.is("another", allocate(x, "C", FIXED, 3, 1, 1), 3);
+        extents(x, 3, 4, 1, 6, 1, 8, 1);
+        int h = Due.open(x, "C", TO_PUT);
+        Due.put(x, h, 9);
+        x.close(h);
+        h = Due.open(x, "B", TO_PUT);
+        for (int i = 0; i < 7; i++) {
+            Due.is("put", Due.put(x, h, Due.row(200, i)), 1);
+        }
+        Due.is("it has one track", Due.put(x, h, Due.row(200, 7)), FULL);
+        x.close(h);
+        h = Due.open(x, "B", TO_GET);
+        for (int i = 0; i < 7; i++) {
+            Due.is("get", x.get(h), 200);
+        }
+        Due.is("and no more", x.get(h), NONE);
+        x.close(h);
+        Due.is("free", x.count(0), 71);
+        Due.is("scratch", scratch(x, "B"), 1);
+        Due.is("one more is free", x.count(0), 72);
+        Due.is("C's record stays", x.record(0, 4, 0, 200), 9);
     }
 
     // "NONE" (of scratch)
